@@ -1,0 +1,93 @@
+import java.lang.reflect.Constructor;
+import java.lang.reflect.Field;
+import java.lang.reflect.Method;
+import java.lang.reflect.Modifier;
+import java.nio.file.Files;
+import java.nio.file.Path;
+import java.util.Set;
+import java.util.TreeSet;
+import java.util.regex.Matcher;
+import java.util.regex.Pattern;
+
+/** The face of the class, and those rules of LANGUAGE.md that a look at the file can tell. */
+public final class LanguageTest {
+    private static final Set<String> FACE = new TreeSet<>(Set.of(
+            "int winds(int,int,int,int,int)", "int weight(int,int)", "int sails(int,int)", "int engine(int)",
+            "long luck(int,int,int,int,int)", "int choice(int,int,int,int,int)", "int promise(int,int,int,int)",
+            "int load(int,int)", "int apart(int,int,boolean)", "int stow(int,int)", "int berths(int,int)",
+            "int slot(int,int,int)", "int of(int,int)", "int free(int)", "int feed(int,int,int,int,int)",
+            "int end(int)", "int contract()", "int fault()", "long due(int,int,int)", "int leg(int)",
+            "int aboard(int,int,int)", "int part(int,int)", "int smoke(int)", "int count(int)", "int status()"));
+
+    public static void main(String[] args) throws Exception {
+        face();
+        nestedClasses();
+        words();
+        Check.finish();
+    }
+
+    private static void face() {
+        Set<String> seen = new TreeSet<>();
+        for (Method method : SailCargo.class.getDeclaredMethods()) {
+            if (!Modifier.isPrivate(method.getModifiers())) {
+                seen.add(shape(method));
+            }
+        }
+        Check.holds("the methods " + seen, seen.equals(FACE));
+        for (Field field : SailCargo.class.getDeclaredFields()) {
+            boolean isNone = field.getName().equals("NONE");
+            Check.holds(field + " is private", isNone || Modifier.isPrivate(field.getModifiers()));
+        }
+        Constructor<?>[] constructors = SailCargo.class.getDeclaredConstructors();
+        Check.same("constructors", constructors.length, 1);
+        Check.holds("public final", Modifier.isFinal(SailCargo.class.getModifiers()));
+    }
+
+    private static String shape(Method method) {
+        StringBuilder all = new StringBuilder(method.getReturnType().getName());
+        all.append(' ').append(method.getName()).append('(');
+        String comma = "";
+        for (Class<?> type : method.getParameterTypes()) {
+            all.append(comma).append(type.getName());
+            comma = ",";
+        }
+        return all.append(')').toString();
+    }
+
+    private static void nestedClasses() {
+        Set<String> names = new TreeSet<>();
+        for (String shape : FACE) {
+            names.add(shape.replaceAll("^\\w+ (\\w+)\\(.*", "$1"));
+        }
+        Class<?>[] nested = SailCargo.class.getDeclaredClasses();
+        Check.holds("some twelve classes at most", nested.length < 12);
+        for (Class<?> one : nested) {
+            Check.holds(one + " is static", Modifier.isStatic(one.getModifiers()));
+            for (Method method : one.getDeclaredMethods()) {
+                Check.holds(method + " has a name of its own", !names.contains(method.getName()));
+                Check.holds(method + " takes seven at most", method.getParameterCount() <= 7);
+            }
+            for (Field field : one.getDeclaredFields()) {
+                int is = field.getModifiers();
+                Check.holds(field + " is no static state", !Modifier.isStatic(is) || Modifier.isFinal(is));
+            }
+        }
+        for (Method method : SailCargo.class.getDeclaredMethods()) {
+            boolean isOwn = Modifier.isPrivate(method.getModifiers());
+            Check.holds(method + " has a name of its own", !isOwn || !names.contains(method.getName()));
+        }
+    }
+
+    private static void words() throws Exception {
+        String file = Files.readString(Path.of("src/main/java/SailCargo.java"));
+        String code = file.replaceAll("(?s)/\\*.*?\\*/", "").replaceAll("//[^\n]*", "").replaceAll("\"[^\"]*\"", "\"\"");
+        String[] words = {"throw", "throws", "try", "catch", "synchronized", "assert", "import", "package", "hashCode",
+            "toString", "System", "Thread", "Object", "protected", "var", "goto", "\\w+Exact"};
+        for (String word : words) {
+            Matcher matcher = Pattern.compile("\\b" + word + "\\b").matcher(code);
+            Check.holds("no " + word, !matcher.find());
+        }
+        Check.holds("no lambda, no method reference", !code.contains("->") && !code.contains("::"));
+        Check.holds("no joining of texts by +", !Pattern.compile("\"\\s*\\+|\\+\\s*\"").matcher(code).find());
+    }
+}
