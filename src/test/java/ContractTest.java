@@ -18,6 +18,7 @@ public final class ContractTest {
         tape();
         texts();
         itStays();
+        endOfTape();
         clausesAtMost();
         dues();
         dueBounds();
@@ -153,6 +154,24 @@ public final class ContractTest {
         Check.type(x, "  ");
         Check.same("contract", x.contract(), 0);
         Check.same("due", x.due(2, 1, 1), 0);
+    }
+
+    /** What was cut off does not count, nor what stood there in an earlier text. */
+    private static void endOfTape() {
+        SailCargo x = new SailCargo();
+        Check.type(x, "pay 12345");
+        Check.same("end", x.end(6), 6);
+        Check.same("contract", x.contract(), 1);
+        Check.same("due", x.due(0, 0, 0), 12);
+        Check.type(x, "pays");
+        Check.same("end", x.end(3), 3);
+        Check.same("contract", x.contract(), -6);
+        Check.same("fault", x.fault(), 3);
+        fine(" ".repeat(195) + "pay 7", 1);
+        fine("pay " + "0".repeat(195) + "7", 1);
+        faulty(" ".repeat(197) + "pay", 200);
+        faulty("a".repeat(200), 0);
+        faulty("pay 7" + " ".repeat(194) + ";", 200);
     }
 
     private static void clausesAtMost() {

@@ -61,6 +61,9 @@ public final class HoldTest {
         Check.same("what -1", x.stow(5, -1), -1);
         Check.same("what 3", x.stow(5, 3), -1);
         Check.same("status is not of stow", x.status(), 0);
+        Check.same("no tons", x.stow(0, 0), 0);
+        Check.same("no tons", x.stow(0, 1), 0);
+        Check.same("no tons", x.stow(0, 2), 0);
         Check.same("one ton too few", x.stow(199, 0), 0);
         Check.same("just so many", x.stow(200, 0), 1);
         Check.same("tons", x.stow(1000, 1), 200);

@@ -81,8 +81,9 @@ public final class LanguageTest {
     private static void words() throws Exception {
         String file = Files.readString(Path.of("src/main/java/SailCargo.java"));
         String code = file.replaceAll("(?s)/\\*.*?\\*/", "").replaceAll("//[^\n]*", "").replaceAll("\"[^\"]*\"", "\"\"");
-        String[] words = {"throw", "throws", "try", "catch", "synchronized", "assert", "import", "package", "hashCode",
-            "toString", "System", "Thread", "Object", "protected", "var", "goto", "\\w+Exact"};
+        String[] words = {"throw", "throws", "try", "catch", "synchronized", "assert", "package", "protected",
+            "import (?!java\\.util\\.(ArrayList|List|Arrays|Iterator);)\\w+", "hashCode", "Thread", "Object",
+            "System\\.(?!arraycopy)\\w+", "\\w+Exact"};
         for (String word : words) {
             Matcher matcher = Pattern.compile("\\b" + word + "\\b").matcher(code);
             Check.holds("no " + word, !matcher.find());

@@ -1,9 +1,12 @@
+import java.util.HashMap;
+import java.util.Map;
 import java.util.Random;
 
 /** Promises 6 to 8: luck, choice, promise. */
 public final class PassageTest {
     private static final int[] SPEED = new int[4];
     private static final int[] WEIGHT = new int[4];
+    private static final Map<Integer, long[]> SEEN = new HashMap<>();
     private static int engine;
 
     public static void main(String[] args) {
@@ -35,7 +38,11 @@ public final class PassageTest {
         }
         Check.same("status is not of these", x.status(), 0);
         Check.same("luck edge", x.luck(0, 12, 12, 1000, 0), 1L << 48);
-        Check.same("luck edge", x.luck(120, 12, 12, 1000, 0) > 0 ? 1 : 0, 1);
+        Check.holds("luck edge", x.luck(120, 12, 12, 1000, 0) > 0);
+        Check.same("no days, no miles", x.luck(0, 0, 0, 0, 0), 1);
+        Check.same("no days, no miles", x.luck(0, 0, 0, 0, 1), 0);
+        Check.same("no days", x.luck(1, 0, 12, 0, 0), 0);
+        Check.same("no days", x.luck(1, 0, 12, 0, 1), 0);
         Check.same("promise of 0 miles", x.promise(0, 0, 0, 16), 0);
         Check.same("promise of 0 miles", x.promise(0, 12, 1000, 1), 0);
         Check.same("choice of 0 miles", x.choice(0, 12, 12, 3, 1000), 0);
@@ -52,6 +59,7 @@ public final class PassageTest {
         Check.same("nothing burnt behind the end", x.luck(15, 12, 12, 0, 1), 2L << 48);
         Check.same("promise", x.promise(95, 12, 0, 16), 10);
         Check.same("promise", x.promise(95, 9, 0, 1), -1);
+        Check.same("promise of twelve days", x.promise(120, 12, 0, 16), 12);
         Check.same("choice", x.choice(15, 3, 2, 2, 0), 0);
         Check.same("choice", x.choice(15, 2, 2, 2, 0), 1);
         // Alike chances, less COAL: with two days for one, a WIND may still come.
@@ -134,7 +142,7 @@ public final class PassageTest {
             set(x, random, 20);
             weigh(x, random);
             for (int i = 0; i < 3; i++) {
-                look(x, random.nextInt(61), 1 + random.nextInt(4), random.nextInt(4), random);
+                look(x, random.nextInt(121), 1 + random.nextInt(12), random.nextInt(13), random);
             }
         }
     }
@@ -156,6 +164,7 @@ public final class PassageTest {
         }
         WEIGHT[3] = left;
         x.winds(WEIGHT[0], WEIGHT[1], WEIGHT[2], WEIGHT[3], 0);
+        SEEN.clear();
     }
 
     private static void look(SailCargo x, int miles, int days, int coal, Random random) {
@@ -166,17 +175,27 @@ public final class PassageTest {
         Check.same("COAL", x.luck(miles, days, coal, 3, 1), want[1]);
         int n = 1 + random.nextInt(16);
         int fewest = x.promise(miles, coal, 3, n);
-        for (int d = 0; d <= 4; d++) {
+        for (int d = 0; d <= 12; d++) {
             boolean reached = 16 * plain(miles, d, coal)[0] >= n * (1L << 4 * d);
             Check.holds("promise " + fewest + " by " + d, reached == (fewest != -1 && fewest <= d));
         }
     }
 
-    /** The terms' words as they stand: chance and mean COAL, day by day, nothing kept. */
+    /** The terms' words as they stand: chance and mean COAL, day by day. */
     private static long[] plain(int miles, int days, int coal) {
         if (miles <= 0) {
             return new long[] {1L << 4 * days, 0};
         }
+        int key = (miles * 13 + days) * 13 + coal;
+        long[] seen = SEEN.get(key);
+        if (seen == null) {
+            seen = plainSum(miles, days, coal);
+            SEEN.put(key, seen);
+        }
+        return seen;
+    }
+
+    private static long[] plainSum(int miles, int days, int coal) {
         long[] sum = new long[2];
         if (days > 0) {
             for (int wind = 0; wind < 4; wind++) {
