@@ -1,3 +1,4 @@
+import java.util.Arrays;
 import java.util.Random;
 
 /** Promises 12 to 15: berths, slot, of, free. */
@@ -135,7 +136,8 @@ public final class HarbourTest {
             boolean[][][] taken = new boolean[6][3][401];
             int[] berths = {1, 1, 1, 1, 1, 1};
             int told = 0;
-            for (int call = 0; call < 150; call++) {
+            // Each of these makes five calls at most, and an object is good for 512.
+            for (int call = 0; call < 100; call++) {
                 int port = random.nextInt(2);
                 if (random.nextInt(8) == 0) {
                     int many = 1 + random.nextInt(3);
@@ -168,9 +170,8 @@ public final class HarbourTest {
             Check.same("free", x.free(slot), -2);
             return;
         }
-        for (int day = x.of(slot, 2); day <= x.of(slot, 3); day++) {
-            taken[port][x.of(slot, 1)][day] = false;
-        }
+        boolean[] days = taken[port][x.of(slot, 1)];
+        Arrays.fill(days, x.of(slot, 2), x.of(slot, 3) + 1, false);
         Check.same("free", x.free(slot), 0);
     }
 

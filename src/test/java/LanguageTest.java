@@ -23,6 +23,7 @@ public final class LanguageTest {
         face();
         nestedClasses();
         words();
+        sizes();
         Check.finish();
     }
 
@@ -90,5 +91,25 @@ public final class LanguageTest {
         }
         Check.holds("no lambda, no method reference", !code.contains("->") && !code.contains("::"));
         Check.holds("no joining of texts by +", !Pattern.compile("\"\\s*\\+|\\+\\s*\"").matcher(code).find());
+    }
+
+    /** Rule 11: some sixty lines a method, some twenty fields a class. */
+    private static void sizes() throws Exception {
+        String file = Files.readString(Path.of("src/main/java/SailCargo.java"));
+        Matcher method = Pattern.compile("(?ms)^( {4,8})(?! )([^\\n=;*]*\\w\\([^;{]*\\) \\{\\n.*?)^\\1\\}").matcher(file);
+        int methods = 0;
+        while (method.find()) {
+            methods++;
+            String body = method.group(2);
+            Check.holds("sixty lines at most: " + body.lines().findFirst().orElse(""), body.lines().count() < 60);
+        }
+        Check.holds("methods were found, not " + methods, methods > 80);
+        for (Class<?> one : SailCargo.class.getDeclaredClasses()) {
+            int fields = 0;
+            for (Field field : one.getDeclaredFields()) {
+                fields += Modifier.isStatic(field.getModifiers()) ? 0 : 1;
+            }
+            Check.holds(one + " has twenty fields at most", fields <= 20);
+        }
     }
 }

@@ -1,4 +1,6 @@
+import java.util.ArrayList;
 import java.util.HashMap;
+import java.util.List;
 import java.util.Map;
 import java.util.Random;
 
@@ -14,6 +16,7 @@ public final class PassageTest {
         byHand();
         againstEveryWayOfChoosing();
         againstRecursion();
+        inAnyOrder();
         greatest();
         Check.finish();
     }
@@ -145,6 +148,67 @@ public final class PassageTest {
                 look(x, random.nextInt(121), 1 + random.nextInt(12), random.nextInt(13), random);
             }
         }
+    }
+
+    /** One thing is told anew at a time, between questions of all sizes on days ahead of it and behind it. */
+    private static void inAnyOrder() {
+        Random random = new Random(23);
+        for (int round = 0; round < 25; round++) {
+            SailCargo x = new SailCargo();
+            List<int[]> told = new ArrayList<>();
+            set(x, random, 20);
+            for (int step = 0; step < 80; step++) {
+                tellOne(x, told, random);
+                int known = random.nextInt(4);
+                know(told, known);
+                int miles = random.nextInt(random.nextBoolean() ? 121 : 20);
+                ask(x, miles, random.nextInt(13), random.nextInt(13), known, random);
+            }
+        }
+    }
+
+    private static void tellOne(SailCargo x, List<int[]> told, Random random) {
+        int what = random.nextInt(6);
+        if (what == 0) {
+            int wind = random.nextInt(4);
+            SPEED[wind] = random.nextInt(21);
+            x.sails(wind, SPEED[wind]);
+        } else if (what == 1) {
+            engine = random.nextInt(21);
+            x.engine(engine);
+        } else if (what == 2 && told.size() < 40) {
+            int a = random.nextInt(17);
+            int b = random.nextInt(17 - a);
+            int known = random.nextInt(4);
+            told.add(new int[] {a, b, 0, 16 - a - b, known});
+            x.winds(a, b, 0, 16 - a - b, known);
+        }
+    }
+
+    private static void know(List<int[]> told, int known) {
+        int[] weights = {4, 4, 4, 4};
+        for (int[] one : told) {
+            weights = one[4] <= known ? one : weights;
+        }
+        System.arraycopy(weights, 0, WEIGHT, 0, 4);
+        SEEN.clear();
+    }
+
+    private static void ask(SailCargo x, int miles, int days, int coal, int known, Random random) {
+        if (random.nextBoolean()) {
+            Check.same("luck", x.luck(miles, days, coal, known, 0), plain(miles, days, coal)[0]);
+            Check.same("COAL", x.luck(miles, days, coal, known, 1), plain(miles, days, coal)[1]);
+        } else {
+            int wind = random.nextInt(4);
+            int want = days == 0 ? -1 : plainChoice(miles, days, coal, wind);
+            Check.same("choice", x.choice(miles, days, coal, wind, known), want);
+        }
+        int n = 1 + random.nextInt(16);
+        int fewest = 0;
+        while (fewest <= 12 && 16 * plain(miles, fewest, coal)[0] < n * (1L << 4 * fewest)) {
+            fewest++;
+        }
+        Check.same("promise", x.promise(miles, coal, known, n), fewest > 12 ? -1 : fewest);
     }
 
     private static void set(SailCargo x, Random random, int fastest) {
