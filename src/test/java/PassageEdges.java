@@ -170,6 +170,7 @@ final class PassageEdges {
             x.due(1L << 24, "luck", 50, 6, 5, 0, 1);
             x.due(1, "choice", 51, 6, 5, 0, 0);
         });
+        Line.of("Term II", "of alike ones that by which the least COAL is burnt in the mean", PassageEdges::byOnePart);
         Line.of("Term II", "(nothing is burnt behind the end)", x -> {
             x.due(0, "engine", 10);
             x.due(0, "luck", 0, 12, 12, 0, 1);
@@ -178,6 +179,23 @@ final class PassageEdges {
             x.due(0, "choice", 0, 1, 12, 0, 0);
             x.due(0, "choice", 0, 12, 12, 3, 0);
         });
+    }
+
+    /** 40 MILES in three days, all ways sure: with WIND 0 the ENGINE saves one part of 256. */
+    private static void byOnePart(Line x) {
+        int[] miles = {2, 18, 11, 16};
+        for (int wind = 0; wind < 4; wind++) {
+            x.due(0, "sails", wind, miles[wind]);
+        }
+        x.due(0, "engine", 20);
+        x.due(1, "winds", 10, 5, 0, 1, 0);
+        // Behind SAILS 38 are left: 5 * 16 + 11 * (16 + 11). Behind ENGINE 20: 10 * 11 + 1 * 10.
+        x.due(377, "luck", 38, 2, 3, 0, 1);
+        x.due(120, "luck", 20, 2, 2, 0, 1);
+        x.due(1, "choice", 40, 3, 3, 0, 0);
+        x.due(4096, "luck", 40, 3, 3, 0, 0);
+        // By WIND: 10 * (256 + 120), 5 * 220 and 1 * 320 behind SAILS.
+        x.due(5180, "luck", 40, 3, 3, 0, 1);
     }
 
     /** 15 MILES in two days, ENGINE 10 for one COAL, and 5 by SAILS if WIND 0 comes. */
