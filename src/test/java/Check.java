@@ -22,17 +22,20 @@ final class Check {
     static void type(SailCargo x, String text) {
         int before = x.count(5);
         for (int i = 0; i < text.length(); i += 20) {
-            x.feed(four(text, i), four(text, i + 4), four(text, i + 8), four(text, i + 12), four(text, i + 16));
+            int[] n = twenty(text, i, ' ');
+            x.feed(n[0], n[1], n[2], n[3], n[4]);
         }
         same("end behind \"" + text + "\"", x.end(before + text.length()), before + text.length());
     }
 
-    private static int four(String text, int from) {
-        int all = 0;
-        for (int i = from; i < from + 4; i++) {
-            all = all << 8 | (i < text.length() ? text.charAt(i) : ' ');
+    /** What feed takes for the twenty bytes from here on; behind the text's end stands the padding. */
+    static int[] twenty(String text, int from, char padding) {
+        int[] numbers = new int[5];
+        for (int i = 0; i < 20; i++) {
+            int at = from + i;
+            numbers[i / 4] = numbers[i / 4] << 8 | (at < text.length() ? text.charAt(at) : padding);
         }
-        return all;
+        return numbers;
     }
 
     static void finish() {

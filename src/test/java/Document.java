@@ -2,13 +2,14 @@ import java.io.IOException;
 import java.nio.file.Files;
 import java.nio.file.Path;
 import java.util.LinkedHashMap;
+import java.util.List;
 import java.util.Map;
 import java.util.regex.Matcher;
 import java.util.regex.Pattern;
 
 /**
- * The sentences of ../shared/DOC.md, by "Term I" to "Term VI", "The constants" and "Promise 1" to
- * "Promise 26". A test names the sentence it is for in the document's own words; in the end no word
+ * The sentences of ../shared/DOC.md, by "What it is", "Term I" to "Term VI", "The constants" and
+ * "Promise 1" to "Promise 26". A test names the sentence it is for in the document's own words; in the end no word
  * may be left that no test has named, so that no sentence is passed over.
  */
 final class Document {
@@ -19,17 +20,10 @@ final class Document {
     private static final Map<String, String> SECTIONS = new LinkedHashMap<>();
     private static final Map<String, StringBuilder> UNNAMED = new LinkedHashMap<>();
 
-    private static boolean isOpen;
-
     private Document() {
     }
 
     static void open() throws IOException {
-        if (!Files.exists(FILE)) {
-            System.out.println("there is no " + FILE + ": the sentences are not looked up");
-            return;
-        }
-        isOpen = true;
         String section = "";
         boolean inTerms = false;
         for (String line : Files.readAllLines(FILE)) {
@@ -37,7 +31,7 @@ final class Document {
             Matcher promise = PROMISE.matcher(line);
             if (line.startsWith("## ")) {
                 inTerms = line.equals("## Terms");
-                section = promise.matches() ? promise.group(1) : "";
+                section = line.equals("## What it is") ? "What it is" : promise.matches() ? promise.group(1) : "";
             } else if (inTerms && term.matches()) {
                 section = "Term " + term.group(1);
                 add(section, term.group(2));
@@ -49,7 +43,19 @@ final class Document {
             }
         }
         SECTIONS.forEach((name, text) -> UNNAMED.put(name, new StringBuilder(text)));
-        Check.same("Terms, the constants and promises in " + FILE, SECTIONS.size(), 6 + 1 + 26);
+        Check.same("What it is, terms, the constants and promises in " + FILE, SECTIONS.size(), 1 + 6 + 1 + 26);
+    }
+
+    /** All that a section says, in one line. */
+    static String text(String section) {
+        return SECTIONS.getOrDefault(section, "");
+    }
+
+    /** The lines between the braces of "The public face". */
+    static List<String> face() throws IOException {
+        List<String> lines = Files.readAllLines(FILE);
+        int open = lines.indexOf("public final class SailCargo {");
+        return lines.subList(open + 1, open + 1 + lines.subList(open + 1, lines.size()).indexOf("}"));
     }
 
     private static void add(String section, String line) {
@@ -59,10 +65,7 @@ final class Document {
     }
 
     static void name(String section, String sentence) {
-        if (!isOpen) {
-            return;
-        }
-        String text = SECTIONS.getOrDefault(section, "");
+        String text = text(section);
         int at = text.indexOf(sentence);
         Check.holds(section + " says \"" + sentence + "\", once", at >= 0 && text.lastIndexOf(sentence) == at);
         if (at >= 0) {

@@ -5,6 +5,7 @@
 public final class EdgesTest {
     public static void main(String[] args) throws Exception {
         Document.open();
+        WhatItIsEdges.all();
         WindsEdges.all();
         PassageEdges.all();
         HoldEdges.all();

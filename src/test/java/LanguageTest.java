@@ -11,15 +11,12 @@ import java.util.regex.Pattern;
 
 /** The face of the class, and those rules of LANGUAGE.md that a look at the file can tell. */
 public final class LanguageTest {
-    private static final Set<String> FACE = new TreeSet<>(Set.of(
-            "int winds(int,int,int,int,int)", "int weight(int,int)", "int sails(int,int)", "int engine(int)",
-            "long luck(int,int,int,int,int)", "int choice(int,int,int,int,int)", "int promise(int,int,int,int)",
-            "int load(int,int)", "int apart(int,int,boolean)", "int stow(int,int)", "int berths(int,int)",
-            "int slot(int,int,int)", "int of(int,int)", "int free(int)", "int feed(int,int,int,int,int)",
-            "int end(int)", "int contract()", "int fault()", "long due(int,int,int)", "int leg(int)",
-            "int aboard(int,int,int)", "int part(int,int)", "int smoke(int)", "int count(int)", "int status()"));
+    private static final Pattern METHOD = Pattern.compile("public (int|long) (\\w+)\\((.*)\\);");
+    private static final Pattern CONSTANT = Pattern.compile("public static final int (\\w+) = (-?\\d+);");
+    private static final Set<String> FACE = new TreeSet<>();
 
     public static void main(String[] args) throws Exception {
+        readFace();
         face();
         nestedClasses();
         words();
@@ -27,11 +24,33 @@ public final class LanguageTest {
         Check.finish();
     }
 
+    /** The document's face; each of its lines is one of these three, or the test fails. */
+    private static void readFace() throws Exception {
+        int constants = 0;
+        for (String line : Document.face()) {
+            Matcher method = METHOD.matcher(line.strip());
+            Matcher constant = CONSTANT.matcher(line.strip());
+            if (method.matches()) {
+                FACE.add(method.group(1) + " " + method.group(2) + "(" + method.group(3).replaceAll(" \\w+(, )?", ",")
+                        .replaceAll(",$", "") + ")");
+            } else if (constant.matches()) {
+                constants++;
+                Field field = SailCargo.class.getField(constant.group(1));
+                Check.same(line, field.getInt(null), Integer.parseInt(constant.group(2)));
+            } else {
+                Check.holds("\"" + line + "\" of the face is read", line.strip().equals("public SailCargo();"));
+            }
+        }
+        Check.same("methods of the document's face", FACE.size(), 25);
+        Check.same("constants that others see", SailCargo.class.getFields().length, constants);
+    }
+
     private static void face() {
         Set<String> seen = new TreeSet<>();
         for (Method method : SailCargo.class.getDeclaredMethods()) {
             if (!Modifier.isPrivate(method.getModifiers())) {
                 seen.add(shape(method));
+                Check.holds(method + " is public", Modifier.isPublic(method.getModifiers()));
             }
         }
         Check.holds("the methods " + seen, seen.equals(FACE));
@@ -41,7 +60,10 @@ public final class LanguageTest {
         }
         Constructor<?>[] constructors = SailCargo.class.getDeclaredConstructors();
         Check.same("constructors", constructors.length, 1);
-        Check.holds("public final", Modifier.isFinal(SailCargo.class.getModifiers()));
+        Check.holds("a public constructor without parameters", Modifier.isPublic(constructors[0].getModifiers())
+                && constructors[0].getParameterCount() == 0);
+        int is = SailCargo.class.getModifiers();
+        Check.holds("public final", Modifier.isPublic(is) && Modifier.isFinal(is));
     }
 
     private static String shape(Method method) {

@@ -63,6 +63,11 @@ final class Line {
         Check.same(sentence + ": status() behind " + call, answer(new Call("status", new Object[0])), status);
     }
 
+    /** What a call that changes nothing answers, for a test that reckons with it. */
+    long ask(String name, Object... args) {
+        return answer(new Call(name, args));
+    }
+
     private static boolean isOfTape(String name) {
         return name.equals("feed") || name.equals("end");
     }
@@ -80,18 +85,10 @@ final class Line {
     void type(String text) {
         due(0, "end", 0);
         for (int i = 0; i < text.length(); i += 20) {
-            due(i + 20, "feed", four(text, i), four(text, i + 4), four(text, i + 8), four(text, i + 12),
-                    four(text, i + 16));
+            int[] n = Check.twenty(text, i, '.');
+            due(i + 20, "feed", n[0], n[1], n[2], n[3], n[4]);
         }
         due(text.length(), "end", text.length());
-    }
-
-    private static int four(String text, int from) {
-        int all = 0;
-        for (int i = from; i < from + 4; i++) {
-            all = all << 8 | (i < text.length() ? text.charAt(i) : '.');
-        }
-        return all;
     }
 
     void fine(int clauses, String text) {

@@ -12,7 +12,6 @@ final class StatusEdges {
         others();
         status();
         aheadOfAny();
-        lastCall();
         Line.of("The constants", "`NONE = -1`: There is none", x -> {
             Check.same("NONE", SailCargo.NONE, -1);
             x.due(SailCargo.NONE, "fault");
@@ -162,15 +161,5 @@ final class StatusEdges {
         Object[] args = new Object[call.length - 2];
         System.arraycopy(call, 2, args, 0, args.length);
         x.due((Integer) call[0], (String) call[1], args);
-    }
-
-    /** "An object is used for at most 512 calls": the 512th is still answered as the first. */
-    private static void lastCall() {
-        SailCargo x = new SailCargo();
-        x.load(5, 6);
-        for (int call = 2; call < 512; call++) {
-            Check.same("call " + call, x.stow(5, 2), 6);
-        }
-        Check.same("the 512th call", x.load(5, 6), 1);
     }
 }
