@@ -139,7 +139,8 @@ final class Plain {
     int promise(int miles, int coal, int known, int n) {
         for (int days = 0; days <= 12 && in(n, 1, 16); days++) {
             long luck = luck(miles, days, coal, known, 0);
-            if (luck != -1 && BigInteger.valueOf(luck).shiftLeft(4).compareTo(BigInteger.valueOf(n).shiftLeft(4 * days)) >= 0) {
+            BigInteger asked = BigInteger.valueOf(n).shiftLeft(4 * days);
+            if (luck != -1 && BigInteger.valueOf(luck).shiftLeft(4).compareTo(asked) >= 0) {
                 return days;
             }
         }

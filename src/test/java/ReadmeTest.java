@@ -137,7 +137,8 @@ public final class ReadmeTest {
 
     /** The clauses that README.md shows are all that there are, and can be read. */
     private static void contracts() {
-        String[] clauses = said("words, numbers and `;`: (.*?)\\. They").replaceAll("\\s+", " ").replace("`", "").split(", ");
+        String told = said("words, numbers and `;`: (.*?)\\. They");
+        String[] clauses = told.replaceAll("\\s+", " ").replace("`", "").split(", ");
         Check.same("kinds of clauses", clauses.length, 7);
         for (String clause : clauses) {
             SailCargo x = new SailCargo();
